@@ -169,7 +169,6 @@ public final class CostBench {
     public int words(int slot, int letters) throws NoSuchElementException, IllegalArgumentException {
         checkSlot(slot);
         checkValue(letters, 0, ASKED_LETTERS);
-        forgetAnswers();
         return tree.countWords(slots[slot], letters);
     }
 
@@ -177,8 +176,7 @@ public final class CostBench {
         checkSlot(slot);
         checkValue(letters, 0, ASKED_LETTERS);
         checkValue(what, 0, 1);
-        forgetAnswers();
-        return tree.costOfWords(slots[slot], letters, what == 1);
+        return what == 0 ? tree.leastCost(slots[slot], letters) : tree.greatestCost(slots[slot], letters);
     }
 
     public long paths(int slot, int arcs) throws NoSuchElementException, IllegalArgumentException {
@@ -1332,7 +1330,9 @@ public final class CostBench {
         }
 
         int costOf(Machine m, boolean withWrites) {
-            Arrays.fill(paid, NONE);
+            for (int i = 0; i <= readLetters; i++) {
+                Arrays.fill(paid, rowOf(i, 0), rowOf(i, writeLetters + 1), NONE);
+            }
             paid[0] = m.startCost;
             for (int i = 0; i <= readLetters; i++) {
                 for (int j = 0; j <= writeLetters; j++) {
@@ -1485,9 +1485,8 @@ public final class CostBench {
         int apartLetters = NONE;
         final int[] apartWord = new int[ASKED_LETTERS];
         private static final int COUNT = 0;
-        private static final int LEAST = 1;
-        private static final int GREATEST = 2;
-        private static final int APART = 3;
+        private static final int GREATEST = 1;
+        private static final int APART = 2;
         private static final int WIDTH = 2 * MOST_STATES;
         private static final int KEPT = 256;
         private final Steps first;
@@ -1512,18 +1511,38 @@ public final class CostBench {
             return paid == NONE ? 0 : search(0, letters);
         }
 
-        int costOfWords(Machine m, int letters, boolean greatest) {
+        int greatestCost(Machine m, int letters) {
             first.take(m);
             second.clear();
-            int paid = begin(greatest ? GREATEST : LEAST);
+            int paid = begin(GREATEST);
             int rest = paid == NONE ? NONE : search(0, letters);
             return rest == NONE ? NONE : paid + rest;
         }
 
+        /** The least of all words needs no tree: each letter may be any. */
+        int leastCost(Machine m, int letters) {
+            first.take(m);
+            second.clear();
+            int paid = begin(GREATEST);
+            int row = 0;
+            for (int i = 0; i < letters && i < ASKED_LETTERS; i++) {
+                Arrays.fill(rows, row + WIDTH, row + WIDTH + width, NONE);
+                for (int letter = 1; letter <= LETTERS; letter++) {
+                    first.go(rows, row, row + WIDTH, letter);
+                }
+                row += WIDTH;
+            }
+            int rest = first.costAt(rows, row);
+            return rest == NONE ? NONE : paid + rest;
+        }
+
         void findApart(Machine one, Machine other) {
+            apartLetters = NONE;
+            if (one.isBuiltAs(other)) {
+                return;
+            }
             first.take(one);
             second.take(other);
-            apartLetters = NONE;
             if (begin(APART) == NONE) {
                 return;
             }
@@ -1556,7 +1575,7 @@ public final class CostBench {
             if (isKept(place, row, left)) {
                 return keptAnswer[place];
             }
-            int answer = aim == LEAST || aim == GREATEST ? NONE : 0;
+            int answer = aim == GREATEST ? NONE : 0;
             for (int letter = 1; letter <= LETTERS; letter++) {
                 int paid = step(row, letter);
                 if (paid == NONE) {
@@ -1590,16 +1609,10 @@ public final class CostBench {
         }
 
         private int together(int answer, int more, int paid) {
-            if (aim == COUNT || aim == APART) {
+            if (aim != GREATEST) {
                 return answer + more;
             }
-            if (more == NONE) {
-                return answer;
-            }
-            if (aim == LEAST) {
-                return lesser(answer, paid + more);
-            }
-            return Math.max(answer, paid + more);
+            return more == NONE ? answer : Math.max(answer, paid + more);
         }
 
         private int placeOf(int row, int left) {
