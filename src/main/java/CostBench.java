@@ -762,7 +762,7 @@ public final class CostBench {
         return sign >= 'a' && sign < 'a' + LETTERS ? sign - 'a' + 1 : NONE;
     }
 
-    /** What can be come to, what it costs to end, and how many paths there are. */
+    /** What can be come to, what it costs to end, how many paths there are, and least ways by silent arcs. */
     private static final class Reach {
         // Above the arcs of any least path, so that a key orders by cost, then by arcs.
         private static final int UNIT = 64;
@@ -1669,26 +1669,21 @@ public final class CostBench {
         }
 
         void goOn(Machine m, int couple) {
-            begin(couple);
-            for (int head = 0; head < count && head < COUPLES; head++) {
-                int p = queue[head] / MOST_STATES;
-                int q = queue[head] % MOST_STATES;
-                for (int i = m.leavingAt[p]; i < m.leavingAt[p + 1]; i++) {
-                    for (int j = m.leavingAt[q]; j < m.leavingAt[q + 1]; j++) {
-                        meet(m, queue[head], m.leaving[i], m.leaving[j], m.to);
-                    }
-                }
-            }
+            go(m, couple, m.leavingAt, m.leaving, m.to);
         }
 
         void goBack(Machine m, int couple) {
+            go(m, couple, m.comingAt, m.coming, m.from);
+        }
+
+        private void go(Machine m, int couple, int[] firstOf, int[] sorted, int[] end) {
             begin(couple);
             for (int head = 0; head < count && head < COUPLES; head++) {
                 int p = queue[head] / MOST_STATES;
                 int q = queue[head] % MOST_STATES;
-                for (int i = m.comingAt[p]; i < m.comingAt[p + 1]; i++) {
-                    for (int j = m.comingAt[q]; j < m.comingAt[q + 1]; j++) {
-                        meet(m, queue[head], m.coming[i], m.coming[j], m.from);
+                for (int i = firstOf[p]; i < firstOf[p + 1]; i++) {
+                    for (int j = firstOf[q]; j < firstOf[q + 1]; j++) {
+                        meet(m, queue[head], sorted[i], sorted[j], end);
                     }
                 }
             }

@@ -31,6 +31,8 @@ public final class PromisesTest {
         tooLargeStates();
         tooLargeArcs();
         tooLargeCosts();
+        tooLargeFinals();
+        fortyStates();
         undo();
         undoTape();
         told();
@@ -407,19 +409,24 @@ public final class PromisesTest {
         return t.toString();
     }
 
-    private static void tooLargeCosts() {
-        CostBench b = new CostBench();
-        Check.load(b, 0, "states 1;start 625;final 0 0;");
+    /** Slot 0: a start or final cost of 625 becomes 15625 (10000, 5000 and 625), six times doubled a million. */
+    private static void makeMillion(CostBench b, String text) {
+        Check.load(b, 0, text);
         for (int i = 0; i < 3; i++) {
             b.join(8, 0, 0, 0);
         }
         b.join(8, 0, 0, 1);
         b.join(8, 0, 1, 0);
-        Check.load(b, 1, "states 1;start 625;final 0 0;");
+        Check.load(b, 1, text);
         b.join(8, 0, 1, 0);
         for (int i = 0; i < 6; i++) {
             b.join(8, 0, 0, 0);
         }
+    }
+
+    private static void tooLargeCosts() {
+        CostBench b = new CostBench();
+        makeMillion(b, "states 1;start 625;final 0 0;");
         Check.due("6 a million", b.told(0, 2), 1000000);
         Check.load(b, 1, "states 1;start 1;final 0 0;");
         Check.load(b, 2, "states 1;final 0 1;");
@@ -430,6 +437,56 @@ public final class PromisesTest {
         Check.due("6 pushed, a million", b.make(6, 0, 4), 1);
         Check.badState("5 pushed, start cost above", () -> b.make(6, 3, 4));
         Check.badState("6 behind, an arc above", () -> b.join(8, 3, 3, 4));
+    }
+
+    private static void tooLargeFinals() {
+        CostBench b = new CostBench();
+        makeMillion(b, "states 1;final 0 625;");
+        Check.due("6 final cost of a million", b.last(0, 0), 1000000);
+        Check.due("11 least", b.least(0), 1000000);
+        Check.load(b, 1, "states 1;final 0 1;");
+        Check.badState("6 final cost above", () -> b.join(8, 0, 1, 2));
+        Check.load(b, 1, "states 1;start 1;final 0 0;");
+        Check.badState("6 then, an arc above", () -> b.join(10, 0, 1, 2));
+        Check.due("6 turned, an arc of a million", b.make(3, 0, 2), 2);
+        // Of EITHER the start ends at a million or, by the other one, at 1: the lesser one counts.
+        Check.due("6 either", b.join(9, 0, 1, 3), 3);
+        Check.due("5 free", b.make(4, 3, 3), 3);
+        Check.due("10 the lesser one", b.last(3, 0), 1);
+        // Behind a silent arc of 1 the start would end at a million and 1.
+        Check.load(b, 1, "states 2;final 1 0;arc 0 1 - - 1;");
+        Check.due("6 then", b.join(10, 1, 0, 5), 3);
+        Check.badState("5 free, final cost above", () -> b.make(4, 5, 5));
+    }
+
+    /** The most states there can be, the last one with arcs from it and to it. */
+    private static void fortyStates() {
+        CostBench b = new CostBench();
+        Check.load(b, 0, ring(5) + "final 4 0;");
+        Check.load(b, 1, ring(8) + "final 7 0;");
+        Check.due("6 behind", b.join(8, 0, 1, 2), 40);
+        Check.due("8 arcs", b.told(2, 1), 40);
+        Check.due("8 of paths", b.told(2, 8), 40);
+        Check.due("10 last", b.last(2, 39), 0);
+        Check.due("11 least", b.least(2), 78);
+        Check.due("12 arcs", b.path(2, -1), 39);
+        Check.due("12 the last", b.path(2, 38), 38);
+        Check.due("22 ahead", b.ahead(2, 0), 78);
+        Check.due("19 twins", b.twins(2), 1);
+        for (int what : new int[] {0, 1, 2, 4, 5, 7}) {
+            Check.due("5 made " + what, b.make(what, 2, 3), 40);
+            Check.due("24 alike " + what, b.alike(2, 3) ? 1 : 0, 1);
+        }
+        Check.due("23 merged", b.merged(2, 39), 39);
+        Check.due("18 apart from nothing, behind eight letters", b.apart(2, 4, -1), -1);
+        Check.load(b, 1, ring(8) + "arc 6 7 a a 5;");
+        b.join(8, 0, 1, 2);
+        int[] want = {0, 0, 0, 40, -4};
+        for (int i = 0; i < 5; i++) {
+            Check.due("20 forty " + i, b.parting(2, i), want[i]);
+        }
+        Check.due("21 forty", b.partingAt(2, 1, 39), 1);
+        Check.due("21 forty", b.partingAt(2, 1, 40), -1);
     }
 
     private static void undo() {
