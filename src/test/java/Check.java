@@ -103,6 +103,29 @@ final class Check {
         }
     }
 
+    /** All six machines. */
+    static String machines(CostBench bench) {
+        StringBuilder b = new StringBuilder();
+        for (int s = 0; s < 6; s++) {
+            b.append(s).append(": ").append(told(bench, s)).append('\n');
+        }
+        return b.toString();
+    }
+
+    /** All that can be asked for and that a refused call must not change; refusals themselves are counted apart. */
+    static String all(CostBench bench) {
+        return machines(bench) + "tape " + bench.told(0, 9) + ", acts " + bench.told(0, 10) + ", fault " + bench.fault()
+                + ", print " + bench.print();
+    }
+
+    static void same(String what, String got, String want) {
+        asked++;
+        if (!got.equals(want)) {
+            wrong++;
+            System.out.println(what + ": is\n" + got + "\n  due is\n" + want);
+        }
+    }
+
     static void end() {
         System.out.println(wrong == 0 ? asked + " answers as due" : wrong + " of " + asked + " answers not as due");
         if (wrong != 0) {
