@@ -1056,7 +1056,7 @@ public final class CostBench {
             into.begin(1, m.startCost);
             Arrays.fill(rows, 0, MOST_STATES, NONE);
             rows[0] = 0;
-            for (int s = 0; s < into.states && !into.tooLarge; s++) {
+            for (int s = 0; s < into.states && s < MOST_STATES && !into.tooLarge; s++) {
                 into.setEnding(s, endingOf(m, s * MOST_STATES));
                 for (int letter = 1; letter <= LETTERS; letter++) {
                     int costs = step(m, s * MOST_STATES, letter);
@@ -1247,7 +1247,7 @@ public final class CostBench {
             Arrays.fill(number, NONE);
             into.begin(0, first.startCost + second.startCost);
             stateOf(0, 0, 0, into);
-            for (int s = 0; s < into.states && !into.tooLarge; s++) {
+            for (int s = 0; s < into.states && s < MOST_STATES && !into.tooLarge; s++) {
                 int p = firstState[s];
                 int q = secondState[s];
                 if (first.ending[p] != NONE && second.ending[q] != NONE) {

@@ -34,6 +34,7 @@ public final class AskEdgesTest {
         worstOfNone();
         worstOfEight();
         worstOfManyRows();
+        worstOfRowsAgain();
         silentFromTheEnd();
         manySteps();
         apartForty();
@@ -51,6 +52,7 @@ public final class AskEdgesTest {
         partingPaysFromThere();
         partingBackLetters();
         partingLong();
+        partingForty();
         notPlain();
         aheadNone();
         mergedStates();
@@ -599,6 +601,43 @@ public final class AskEdgesTest {
         Check.due("18 one letter", b.apart(0, 1, 0), 4);
     }
 
+    /**
+     * The same with rows that come again among many others: a, b, c add to two sums, d levels them to the lesser; the
+     * second is there from the first d on.
+     */
+    private static void worstOfRowsAgain() {
+        for (int i = 1; i <= 12; i++) {
+            worstOfRows(new int[] {0, 97 * i % 499, 311 * i % 499}, new int[] {53 * i % 499, 0, 170 * i % 499});
+        }
+    }
+
+    private static void worstOfRows(int[] one, int[] other) {
+        StringBuilder t = new StringBuilder("states 2;final 0 2;final 1 0;");
+        t.append("arc0 0d d0;arc0 1d d0;arc1 0d d0;arc1 1d d0;");
+        for (int i = 0; i < 3; i++) {
+            char x = (char) ('a' + i);
+            t.append("arc0 0").append(x).append(' ').append(x).append(one[i]).append(';');
+            t.append("arc1 1").append(x).append(' ').append(x).append(other[i]).append(';');
+        }
+        CostBench b = new CostBench();
+        Check.load(b, 0, t.toString());
+        for (int letters = 0; letters <= 8; letters++) {
+            int greatest = 0;
+            for (int word = 0; word < 1 << 2 * letters; word++) {
+                int first = 0;
+                int second = MILLION;
+                for (int k = 0; k < letters; k++) {
+                    int x = word >> 2 * k & 3;
+                    first = x < 3 ? first + one[x] : Math.min(first, second);
+                    second = x < 3 ? second + other[x] : first;
+                }
+                greatest = Math.max(greatest, Math.min(first + 2, second));
+            }
+            Check.due("16 greatest of " + letters, b.worst(0, letters, 1), greatest);
+            Check.due("15 all of " + letters, b.words(0, letters), 1 << 2 * letters);
+        }
+    }
+
     /** SILENT ARCS one behind the other, the last of them first by number */
     private static void silentFromTheEnd() {
         StringBuilder t = new StringBuilder("states 12;final 11 0;");
@@ -617,23 +656,40 @@ public final class AskEdgesTest {
         Check.due("8 some path", b.told(0, 8), 12);
     }
 
-    /** From each of twelve STATES, by SILENT ways, a LETTER to each of twelve */
-    private static void manySteps() {
-        StringBuilder t = new StringBuilder("states 12;final 11 0;");
-        for (int i = 0; i < 12; i++) {
-            t.append("arc0 ").append(i).append("d d").append(i).append(';');
-            if (i > 0) {
-                t.append("arc").append(i).append(" 0--1;");
+    /** From START by b to all states for what their numbers are, by c to all but the last, by d to that; back by a. */
+    private static String star(int states) {
+        StringBuilder t = new StringBuilder("states " + states + ";final " + (states - 1) + " 0;");
+        for (int i = 0; i < states; i++) {
+            t.append("arc").append(i).append(" 0a a0;");
+            t.append("arc0 ").append(i).append("b b").append(i).append(';');
+            if (i < states - 1) {
+                t.append("arc0 ").append(i).append("c c0;");
             }
         }
+        return t.append("arc0 ").append(states - 1).append("d d0;").toString();
+    }
+
+    /** From each of forty STATES, by SILENT ways, three LETTERS to nearly all of forty */
+    private static void manySteps() {
         CostBench b = new CostBench();
-        Check.load(b, 0, t.toString());
-        // All but the last d go from START to START for nothing, the last one to the end for 11.
-        for (int letters = 0; letters <= 8; letters++) {
-            Check.due("15 words of " + letters, b.words(0, letters), letters == 0 ? 0 : 1);
-            Check.due("16 greatest of " + letters, b.worst(0, letters, 1), letters == 0 ? -1 : 11);
-            Check.due("16 least of " + letters, b.worst(0, letters, 0), letters == 0 ? -1 : 11);
+        Check.load(b, 0, star(5));
+        Check.load(b, 1, star(8));
+        Check.due("6 forty states", b.join(8, 0, 1, 2), 40);
+        Check.load(b, 0, "states 1;final 0 0;arc 0 0 a - 0;arc 0 0 b b 0;arc 0 0 c c 0;arc 0 0 d d 0;");
+        b.join(8, 2, 0, 2);
+        b.make(2, 2, 2);
+        Check.due("8 arcs", b.told(2, 1), 40 + 40 + 28 + 1);
+        Check.due("8 silent ones", b.told(2, 7), 40);
+        // The last letter is b, for 4 and 7, or d; all others may be any of three, and cost nothing.
+        int all = 2;
+        for (int letters = 1; letters <= 8; letters++) {
+            Check.due("15 words of " + letters, b.words(2, letters), all);
+            Check.due("16 greatest of " + letters, b.worst(2, letters, 1), 11);
+            Check.due("16 least of " + letters, b.worst(2, letters, 0), 0);
+            all *= 3;
         }
+        Check.due("13 by d alone", Check.word(b, 2, "d".repeat(20)), 0);
+        Check.badState("5 free, 2760 arcs", () -> b.make(4, 2, 3));
     }
 
     /** Two MACHINES of forty STATES each, unlike in the last of eight LETTERS, and in none of eight */
@@ -737,6 +793,9 @@ public final class AskEdgesTest {
         b.make(3, 1, 1);
         Check.due("18 turned round twice", b.apart(0, 1, -1), -1);
         Check.due("18 none, first letter", b.apart(0, 1, 0), -1);
+        Check.due("18 of another second one", b.apart(0, 2, -1), 1);
+        Check.due("18 of another first one", b.apart(3, 2, -1), -1);
+        Check.due("18 of the first one again", b.apart(0, 2, 0), 1);
         Check.load(b, 2, "states 2;arc 0 1 a a 1;");
         Check.load(b, 3, "states 2;final 1 1;arc 1 0 a a 1;");
         Check.due("18 neither has a path", b.apart(2, 3, -1), -1);
@@ -917,6 +976,22 @@ public final class AskEdgesTest {
             Check.due("21 none", b.partingAt(5, which, 308), -1);
         }
         Check.due("20 as it was", b.parting(5, 2), 308);
+    }
+
+    /** BACK through all of forty STATES: a ring with two ARCS from START to the next. */
+    private static void partingForty() {
+        CostBench b = new CostBench();
+        Check.load(b, 0, ring(5) + "arc0 1a b5;");
+        Check.load(b, 1, ring(8) + "arc0 1b a0;");
+        Check.due("6 forty states", b.join(8, 0, 1, 2), 40);
+        Check.due("8 one arc more", b.told(2, 1), 41);
+        // The two cost 1 and 1, and 5 and 0.
+        int[] want = {0, 0, 0, 40, -3};
+        for (int what = 0; what <= 4; what++) {
+            Check.due("20 parting " + what, b.parting(2, what), want[what]);
+        }
+        Check.due("21 the last", b.partingAt(2, 1, 39), 1);
+        Check.due("21 none", b.partingAt(2, 1, 40), -1);
     }
 
     /** "IllegalStateException: it is not PLAIN (so below)" */

@@ -310,6 +310,37 @@ public final class RandomRunsTest {
         }
     }
 
+    /** A text with as many arcs as fit, few of them silent: its words come to more rows than are kept at once. */
+    private String wideText() {
+        int states = 6 + random.nextInt(7);
+        StringBuilder b = new StringBuilder("states " + states + ";");
+        for (int i = 0; i < 3; i++) {
+            b.append("final").append(random.nextInt(states)).append(' ').append(random.nextInt(9)).append(';');
+        }
+        for (int i = 0; i < 28; i++) {
+            char x = random.nextInt(12) == 0 ? '-' : (char) ('a' + random.nextInt(4));
+            b.append("arc").append(i < states ? i : random.nextInt(states)).append(' ').append(random.nextInt(states))
+                    .append(x).append(' ').append(x).append(random.nextInt(9)).append(';');
+        }
+        return b.substring(0, b.lastIndexOf(";", 399) + 1);
+    }
+
+    private void runWide() {
+        for (int s = 0; s < 2; s++) {
+            String text = wideText();
+            int slot = s;
+            feedText(text);
+            same(3, "text(" + slot + ")", () -> bench.text(slot, text.length()), () -> oracle.text(slot, text.length()));
+            same(15, "words(" + slot + ", 8)", () -> bench.words(slot, 8), () -> oracle.words(slot, 8));
+            same(16, "worst(" + slot + ", 8, 1)", () -> bench.worst(slot, 8, 1), () -> oracle.worst(slot, 8, 1));
+            same(16, "worst(" + slot + ", 8, 0)", () -> bench.worst(slot, 8, 0), () -> oracle.worst(slot, 8, 0));
+        }
+        callApart(0, 1);
+        same(5, "make(3, 0, 1)", () -> bench.make(3, 0, 1), () -> oracle.make(3, 0, 1));
+        same(5, "make(3, 1, 1)", () -> bench.make(3, 1, 1), () -> oracle.make(3, 1, 1));
+        callApart(0, 1);
+    }
+
     private void run(int acts) {
         for (int i = 0; i < 6; i++) {
             callText();
@@ -335,6 +366,9 @@ public final class RandomRunsTest {
         int first = args.length > 1 ? Integer.parseInt(args[1]) : 1;
         for (int seed = first; seed < first + runs; seed++) {
             new RandomRunsTest(seed).run(60);
+            if (seed % 8 == 0) {
+                new RandomRunsTest(seed).runWide();
+            }
         }
         System.out.println(runs + " runs, " + calls + " calls, " + wrong + " runs differ");
         StringBuilder b = new StringBuilder("answers neither -1 nor refused, by promise:");
