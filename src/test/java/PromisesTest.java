@@ -11,6 +11,7 @@ public final class PromisesTest {
     }
 
     public static void main(String[] args) {
+        readme();
         newObject();
         feed();
         text();
@@ -54,6 +55,19 @@ public final class PromisesTest {
         print();
         status();
         Check.end();
+    }
+
+    /** The example of README.md. */
+    private static void readme() {
+        CostBench bench = new CostBench();
+        bench.feed(0x73746174, 0x65732032, 0x3b66696e, 0x616c2031, 0x20303b61);
+        Check.due("README feed", bench.feed(0x72632030, 0x20312061, 0x20612037, 0x3b000000, 0), 40);
+        Check.due("README text", bench.text(0, 33), 1);
+        Check.due("README least", bench.least(0), 7);
+        Check.due("README make", bench.make(3, 0, 1), 3);
+        Check.due("README undo", bench.undo(), 1);
+        Check.noSuch("README a refusal", () -> bench.least(6));
+        Check.due("README status", bench.status(0), 1);
     }
 
     private static void newObject() {

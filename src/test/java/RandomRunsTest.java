@@ -330,7 +330,8 @@ public final class RandomRunsTest {
             String text = wideText();
             int slot = s;
             feedText(text);
-            same(3, "text(" + slot + ")", () -> bench.text(slot, text.length()), () -> oracle.text(slot, text.length()));
+            same(3, "text(" + slot + ")", () -> bench.text(slot, text.length()),
+                    () -> oracle.text(slot, text.length()));
             same(15, "words(" + slot + ", 8)", () -> bench.words(slot, 8), () -> oracle.words(slot, 8));
             same(16, "worst(" + slot + ", 8, 1)", () -> bench.worst(slot, 8, 1), () -> oracle.worst(slot, 8, 1));
             same(16, "worst(" + slot + ", 8, 0)", () -> bench.worst(slot, 8, 0), () -> oracle.worst(slot, 8, 0));
